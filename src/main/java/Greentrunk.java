@@ -1163,7 +1163,8 @@ public final class Greentrunk {
         private int used;
 
         int verdictOf(Check check, long tree) {
-            return valueOf(keyOf(check, tree)) & 3;
+            int place = placeFor(keys, keyOf(check, tree));
+            return place >= 0 && place < values.length ? values[place] & 3 : OPEN;
         }
 
         /** A run of a test has been done: what becomes of its verdict. */

@@ -118,6 +118,18 @@ public final class AskedTest {
     x.line(0, ALWAYS, 0);
     Due.is("c requires it, too", x.wouldLand(c));
 
+    x = new Greentrunk();
+    x.test(2, 1, 0);
+    int parent = Due.queued(x, 0, 0, 0, 1);
+    int child = Due.change(x, 0, parent, 1, 1);
+    int draft = Due.change(x, 0, parent, 2, 1);
+    x.queue(child, 0);
+    x.tick(1);
+    Due.eq("its parent is LANDED", x.state(parent), Greentrunk.LANDED);
+    Due.is("it would", x.wouldLand(child));
+    x.queue(draft, 3);
+    Due.is("the other, too", x.wouldLand(draft));
+
     // file 0 with 7: draws 1, 0; of the degree 1 it passes first; with 8: 0, 9
     x = new Greentrunk();
     x.test(1, 2, 1);

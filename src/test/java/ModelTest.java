@@ -44,7 +44,7 @@ public final class ModelTest {
   private final Model theirs = new Model();
   private final Random random;
   private final List<String> calls = new ArrayList<>();
-  private final int wild, files, contents, degree, fewTicks;
+  private final int wild, files, contents, degree, fewTicks, patience;
   private String wrong;
 
   private ModelTest(long seed) {
@@ -54,6 +54,7 @@ public final class ModelTest {
     contents = 2 + random.nextInt(9);
     degree = random.nextInt(11);
     fewTicks = 1 + random.nextInt(30);
+    patience = 1 + random.nextInt(6);
   }
 
   private void same(boolean isCall, String name, Object... args) {
@@ -115,6 +116,7 @@ public final class ModelTest {
 
   private void makeOne() {
     int parent = random.nextInt(3) == 0 && !theirs.all.isEmpty() ? change() : -1;
+    for (int i = 0; i < 4 && theirs.isChange(parent) && theirs.state(parent) > 1; i++) parent = change();
     same(true, "begin", some(0, 8), parent);
     int edits = 1 + random.nextInt(random.nextInt(3) == 0 ? 5 : 2);
     for (int i = 0; i < edits; i++) same(true, "edit", some(0, files), some(0, contents));
@@ -175,8 +177,49 @@ public final class ModelTest {
     while (calls.size() < 480 && wrong == null) {
       call();
       sameState();
+      if (random.nextInt(patience) == 0) {
+        same(true, "tick", 1);
+        sameState();
+      }
     }
     return wrong;
+  }
+
+  /** As many changes, tests, verdicts and batches as there can be, most of which land. */
+  private String crowd() {
+    int tests = 10, half = 30;
+    same(true, "batches", 8, 4);
+    for (int m = 1; m < 6; m++) same(true, "come", m);
+    for (int t = 0; t < tests; t++) same(true, "test", 4095 - random.nextInt(4), 1 + random.nextInt(3), random.nextInt(4));
+    for (int c = 0; c < half; c++) makeOneThatLands(random.nextInt(5) == 0);
+    sameState();
+    same(true, "batches", random.nextInt(2) + 1, random.nextInt(4) + 1);
+    for (int c = half; c < 60; c++) {
+      makeOneThatLands(false);
+      same(true, "tick", random.nextInt(12) + 1);
+      if (random.nextInt(10) == 0) same(true, "fullRun");
+      sameState();
+    }
+    for (int i = 0; i < 30 && wrong == null; i++) {
+      same(true, "tick", 30);
+      sameState();
+    }
+    for (int c = 0; c < theirs.trunk.size(); c++) {
+      for (int t = 0; t < tests; t++) same(false, "verdict", t, c);
+      for (int f = 0; f < 12; f++) same(false, "content", c, f);
+    }
+    return wrong;
+  }
+
+  private void makeOneThatLands(boolean onLast) {
+    int last = theirs.all.size() - 1;
+    boolean hasParent = onLast && last >= 0 && theirs.state(last) == 1;
+    same(true, "begin", random.nextInt(8), hasParent ? last : -1);
+    int file = random.nextInt(12);
+    int[] tree = hasParent ? theirs.all.get(last).tree() : theirs.top();
+    same(true, "edit", file, (tree[file] + 1 + random.nextInt(9)) % 10);
+    same(true, "make");
+    same(true, "queue", last + 1, random.nextInt(2));
   }
 
   public static void main(String[] args) {
@@ -185,7 +228,7 @@ public final class ModelTest {
     int bad = 0;
     for (long seed = first; seed < first + many && bad < 3; seed++) {
       ModelTest run = new ModelTest(seed);
-      String wrong = run.run();
+      String wrong = seed % 10 == 0 ? run.crowd() : run.run();
       if (wrong != null) {
         bad++;
         System.out.println("seed " + seed + ": " + wrong + "; behind");

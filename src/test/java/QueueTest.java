@@ -74,6 +74,22 @@ public final class QueueTest {
     Due.eq("4 ticks", x.runs(0), 1);
   }
 
+  /** What a machine loses is taken by another that runs nothing. */
+  private static void lostRuns() {
+    Greentrunk x = new Greentrunk();
+    x.test(1, 4, 0);
+    x.come(1);
+    x.fullRun();
+    x.tick(2);
+    Due.eq("machine 0 runs it", x.running(0), 0);
+    Due.eq("machine 1 runs nothing", x.running(1), NONE);
+    Due.is("lost", x.vanish(0));
+    x.tick(1);
+    Due.eq("machine 1 takes it", x.running(1), 0);
+    x.tick(4);
+    Due.eq("and tells it", x.runs(0), 1);
+  }
+
   /** A machine is warm by the test that it ran last, unless it vanished or ran another. */
   private static void warmMachines() {
     Greentrunk x = new Greentrunk();
@@ -351,6 +367,27 @@ public final class QueueTest {
     Due.eq("commits", x.commits(), 2);
   }
 
+  /** Eight changes: which beginnings are looked at, if the bad one is behind the middle. */
+  private static void bisectingEight() {
+    // 4 passed, 6 FAILED, 5 passed; 4 passed, 6 passed, 7 FAILED; 4 FAILED, 2 passed, 3 FAILED
+    int[][] runsByBad = {{5, 2 + 1 + 2 + 1}, {6, 2 + 1 + 1 + 2}, {7, 2 + 1 + 1 + 1}, {2, 2 + 2 + 1 + 2}, {0, 2 + 2 + 2 + 2 + 1}};
+    for (int[] one : runsByBad) {
+      Greentrunk x = new Greentrunk();
+      x.batches(8, 1);
+      x.test(4095, 1, 0);
+      x.breaks(0, one[0], 1, one[0], 1);
+      for (int i = 0; i < 8; i++) Due.queued(x, 5, 0, i, 1);
+      x.tick(one[1]);
+      Due.eq("not yet", x.state(one[0]), QUEUED);
+      x.tick(1);
+      Due.eq("RED is " + one[0], x.state(one[0]), RED);
+      Due.eq("runs", x.runs(0), one[1]);
+      // without the last one the rest is a beginning whose verdict is known
+      Due.eq("the rest lands", x.tick(1), one[0] == 7 ? 0 : 7);
+      Due.eq("in one commit", x.commits(), 2);
+    }
+  }
+
   /** The weights of authors that were blamed move the middle. */
   private static void blames() {
     Greentrunk x = new Greentrunk();
@@ -495,6 +532,7 @@ public final class QueueTest {
   public static void main(String[] args) {
     promise16();
     promise17and18();
+    lostRuns();
     warmMachines();
     promise19();
     fairShares();
@@ -504,6 +542,7 @@ public final class QueueTest {
     teamOfWanted();
     speculation();
     bisecting();
+    bisectingEight();
     blames();
     outsideBreaks();
     partlyOutside();
