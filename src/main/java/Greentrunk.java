@@ -1158,8 +1158,10 @@ public final class Greentrunk {
      * the verdict, and four times the number of failed runs; an OPEN one has no other runs.
      */
     private static final class Verdicts {
-        private long[] keys = new long[1024];
-        private int[] values = new int[1024];
+        /** The places at first, a power of two. */
+        private static final int FEW_VERDICTS = 256;
+        private long[] keys = new long[FEW_VERDICTS];
+        private int[] values = new int[FEW_VERDICTS];
         private int used;
 
         int verdictOf(Check check, long tree) {

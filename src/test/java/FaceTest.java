@@ -55,6 +55,11 @@ public final class FaceTest {
         Due.not(m + " has the name of a public one", names.contains(m.getName()));
       }
     }
+    for (Class<?> c : Greentrunk.class.getDeclaredClasses()) {
+      for (Method m : c.getDeclaredMethods()) {
+        Due.not(m + " has the name of a public one", names.contains(m.getName()));
+      }
+    }
     for (String line : due) Due.is("there is " + line, found.contains(line));
     for (String line : found) Due.is("the document has " + line, due.contains(line));
   }
