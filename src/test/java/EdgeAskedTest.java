@@ -141,6 +141,23 @@ public final class EdgeAskedTest {
 
   private static void oneByOne() {
     String where = "Terms, one by one";
+    Edge.test(where, "by what is there at the call: behind a revert, a test, a line, a drop, and what was told", () -> {
+      Greentrunk x = landed(1);
+      int revert = x.revert(1, 0);
+      Due.is("behind a revert", x.wouldLand(revert));
+      x.test(2, 1, 0);
+      x.outside(0, true);
+      Due.is("a test that it does not require", x.wouldLand(revert));
+      x.line(0, Edge.ALWAYS, 0);
+      Due.not("behind a line", x.wouldLand(revert));
+      x.outside(0, false);
+      Due.is("mended", x.wouldLand(revert));
+      x.test(1, 1, 0);
+      x.breaks(1, 0, 0, 0, 0);
+      Due.not("behind a test and its rule", x.wouldLand(revert));
+      x.drop(revert);
+      Due.not("dropped", x.wouldLand(revert));
+    });
     Edge.test(where, "in the order of the queue, each on the trunk as it is then: also if batches would not take it yet", () -> {
       Greentrunk x = new Greentrunk();
       for (int i = 0; i < 60; i++) x.queue(Due.change(x, 0, i - 1, 0, 1 + i % 9), 0);
@@ -262,6 +279,11 @@ public final class EdgeAskedTest {
       x.outside(0, false);
       Due.not("all is OPEN again", x.isBroken());
       Due.eq("QUEUED", x.state(c), QUEUED);
+      x.outside(0, true);
+      x.tick(5);
+      Due.is("broken again", x.isBroken());
+      x.drop(c);
+      Due.not("the batch has left the queue", x.isBroken());
     });
     Edge.test(where, "as long as a beginning is between, it is not", () -> {
       for (int n : Edge.from(1, 8)) {

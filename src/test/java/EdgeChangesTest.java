@@ -390,16 +390,44 @@ public final class EdgeChangesTest {
       }, g -> g.rebase(1));
     });
     Edge.test(where, "returns how many of its files have another content in its base than before", () -> {
-      for (int n : Edge.from(0, 4)) {
-        Edge.takes(n + " of its 4 files", () -> {
-          Greentrunk x = new Greentrunk();
-          Due.change(x, 0, NONE, 8, 5, 9, 5, 10, 5, 11, 5);
-          Due.queued(x, 0, 0, 0, 3);
-          for (int i = 0; i < n; i++) Due.queued(x, 0, 0, 8 + i, 9);
-          x.tick(1);
-          return x;
-        }, g -> g.rebase(0), n);
+      for (int low : new int[] {0, 3, 8}) {
+        for (int n : Edge.from(0, 4)) {
+          Edge.takes(n + " of its 4 files", () -> {
+            Greentrunk x = new Greentrunk();
+            Due.change(x, 0, NONE, low, 5, low + 1, 5, low + 2, 5, low + 3, 5);
+            Due.queued(x, 0, 0, (low + 6) % 12, 3);
+            for (int i = 0; i < n; i++) Due.queued(x, 0, 0, low + i, 9);
+            x.tick(1);
+            return x;
+          }, g -> g.rebase(0), n);
+        }
       }
+    });
+    Edge.test(where, "its base becomes that of now: it fits then, and did not before; a second time nothing is another", () -> {
+      for (boolean isRebased : new boolean[] {false, true}) {
+        Greentrunk x = new Greentrunk();
+        int c = Due.change(x, 0, NONE, 0, 5, 11, 5);
+        int child = Due.change(x, 0, c, 0, 6);
+        Due.queued(x, 0, 0, 11, 9);
+        x.tick(1);
+        if (isRebased) Due.eq("file 11", x.rebase(c), 1);
+        if (isRebased) Due.eq("nothing more", x.rebase(c), 0);
+        Due.eq("file 0 of its parent is as it was", x.rebase(child), 0);
+        x.queue(c, 0);
+        x.queue(child, 0);
+        Due.eq("both land, or neither", x.tick(1), isRebased ? 2 : 0);
+        Due.eq("its state", x.state(c), isRebased ? LANDED : CLASHED);
+        Due.eq("its child's", x.state(child), isRebased ? LANDED : DROPPED);
+      }
+    });
+    Edge.test(where, "a refused one keeps its base and its parent", () -> {
+      Greentrunk x = new Greentrunk();
+      int parent = Due.change(x, 0, NONE, 0, 1);
+      int c = Due.change(x, 0, parent, 0, 0, 1, 1);
+      x.queue(parent, 0);
+      x.drop(parent);
+      Due.state("0 is none on the trunk", x, g -> g.rebase(c));
+      Due.state("its parent is DROPPED still", x, g -> g.queue(c, 0));
     });
     Edge.test(where, "on the tree of its parent, if that is DRAFT or QUEUED, otherwise of the trunk, without a parent", () -> {
       for (int s : STATES) {
@@ -711,6 +739,7 @@ public final class EdgeChangesTest {
       Due.eq("they run by one machine", x.tick(10), 0);
       Due.eq("it lands", x.tick(1), 1);
       for (int f = 0; f < 12; f++) Due.eq("content of " + f, x.content(2, f), 0);
+      for (int f = 0; f < 12; f++) x.line(0, Edge.TOUCHES, f);
       int back = x.revert(2, 0);
       Due.eq("the revert is reverted", x.tick(11), 1);
       for (int f = 0; f < 12; f++) Due.eq("content of " + f, x.content(x.landedBy(back), f), 1 + f % 9);
@@ -736,6 +765,9 @@ public final class EdgeChangesTest {
       int none = x.revert(1, 4);
       Due.eq("first of the order", x.queuedAt(0), none);
       Due.eq("it requires nothing", x.requires(none), 0);
+      x.line(0, Edge.TOUCHES, 0);
+      x.line(0, Edge.BY, 0);
+      Due.eq("it touches no file", x.requires(none), 0);
       x.line(0, Edge.BY, 1);
       Due.eq("but for a line by its team", x.requires(none), 1);
       Due.is("it would land", x.wouldLand(none));
@@ -745,6 +777,30 @@ public final class EdgeChangesTest {
       for (int f = 0; f < 12; f++) Due.eq("content", x.content(by, f), x.content(by - 1, f));
       Due.eq("a revert of it has none as well", x.revert(by, 0), none + 1);
       Due.eq("and lands", x.tick(2), 1);
+    });
+    Edge.test(where, "without a parent: no change leaves the queue, or keeps it from landing, for it", () -> {
+      for (int s : STATES) {
+        Greentrunk x = Edge.changeIn(s);
+        x.own(0, NONE);
+        int other = Due.queued(x, 0, 3, 11, 1);
+        x.tick(1);
+        if (x.state(other) != LANDED) x.tick(6);
+        int by = x.landedBy(other);
+        Due.is("there is a commit to revert", by > 0);
+        int revert = x.revert(by, 0);
+        Due.is(Edge.nameOf(s) + ": it would land", x.wouldLand(revert));
+        Due.eq(Edge.nameOf(s) + ": its batch", x.batchOf(revert), 0);
+        Due.eq(Edge.nameOf(s) + ": it lands", x.tick(1), 1);
+        Due.eq("file 11 is 0 again", x.content(x.commits() - 1, 11), 0);
+      }
+      Greentrunk x = new Greentrunk();
+      int first = Due.change(x, 0, NONE, 0, 1);
+      Due.queued(x, 0, 0, 11, 1);
+      x.tick(1);
+      x.queue(first, 0);
+      x.revert(1, 0);
+      Due.eq("it stays when the change 0 leaves", x.drop(first), 1);
+      Due.eq("it lands", x.tick(1), 1);
     });
     Edge.test(where, "queues it with the priority 0, ahead of all that are no reverts; it need not be approved", () -> {
       Greentrunk x = commits(3);

@@ -683,6 +683,49 @@ public final class EdgePipelineTest {
     });
   }
 
+  private static void eachItsOwn() {
+    String where = "Terms, verdicts";
+    Edge.test(where, "each test, and each content of each file, has a verdict of its own", () -> {
+      for (int test : new int[] {0, 1, 7, 8, 9}) {
+        for (int f = 0; f < 12; f++) {
+          Greentrunk x = new Greentrunk();
+          for (int t = 0; t < test; t++) x.test(1 << f, 1, 0);
+          x.test(1 << f, 1, 0);
+          x.line(test, TOUCHES, f);
+          for (int m = 1; m < 6; m++) x.come(m);
+          for (int content : Edge.from(1, 9)) {
+            Due.queued(x, 0, 0, f, content);
+            Due.eq("it needs runs", x.tick(1), 0);
+            x.tick(2);
+            Due.eq("test " + test + ", file " + f + ", content " + content, x.runs(test), content);
+            Due.eq("PASSED", x.verdict(test, content), PASSED);
+          }
+          Due.eq("no run for 0", x.verdict(test, 0), OPEN);
+          Due.queued(x, 0, 0, f, 0);
+          x.tick(3);
+          Due.eq("a run for 0", x.runs(test), 10);
+          Due.queued(x, 0, 0, f, 8);
+          Due.eq("8 has its verdict", x.tick(1), 1);
+        }
+      }
+    });
+    Edge.test(where, "verdicts that hold for hundreds of contents are used again", () -> {
+      Greentrunk x = new Greentrunk();
+      for (int t = 0; t < 10; t++) x.test(4095, 1, 0);
+      for (int m = 1; m < 6; m++) x.come(m);
+      for (int i = 0; i < 29; i++) {
+        Due.queued(x, 0, 0, i % 12, 1 + i / 12);
+        Due.eq("it lands", x.tick(3), 1);
+      }
+      for (int i = 29; i > 0; i--) {
+        x.revert(i, 0);
+        int due = i == 1 ? 0 : 1;
+        Due.eq("the tree is that of a commit that is there: " + i, x.tick(1), due);
+      }
+      for (int t = 0; t < 10; t++) Due.eq("runs of " + t, x.runs(t), 29);
+    });
+  }
+
   public static void main(String[] args) {
     addTest();
     breaks();
@@ -692,6 +735,7 @@ public final class EdgePipelineTest {
     terms();
     draws();
     allowed();
+    eachItsOwn();
     Edge.end("EdgePipelineTest");
   }
 }

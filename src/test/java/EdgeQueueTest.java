@@ -315,6 +315,69 @@ public final class EdgeQueueTest {
     });
   }
 
+  private static void takingAndTelling() {
+    String where = "Terms, runs and machines";
+    Edge.test(where, "of the team of the author of its first change, in the order of the batch, that requires it", () -> {
+      for (int first : Edge.from(0, 2)) {
+        Greentrunk x = new Greentrunk();
+        x.batches(3, 1);
+        int files = 0;
+        for (int i = first; i < 3; i++) files |= 1 << i;
+        x.test(files, 4, 0);
+        // queued with rising priorities: the last one made is the first of the order
+        for (int i = 2; i >= 0; i--) Due.queued(x, i, 2 - i, i, 1);
+        x.tick(1);
+        for (int t = 0; t < 3; t++) Due.eq("those from " + first + " on require it: use of " + t, x.use(t), t == first ? 4 : 0);
+      }
+    });
+    Edge.test(where, "each machine that is there and runs nothing, by rising numbers, takes the tests by rising numbers", () -> {
+      Greentrunk x = Edge.tests(10);
+      x.vanish(0);
+      x.come(4);
+      x.come(1);
+      x.come(5);
+      Due.queued(x, 0, 0, 0, 1);
+      x.tick(1);
+      int[] due = {NONE, 0, NONE, NONE, 1, 2};
+      for (int m = 0; m < 6; m++) Due.eq("machine " + m, x.running(m), due[m]);
+      x.come(0);
+      x.tick(1);
+      int[] then = {3, 4, NONE, NONE, 5, 6};
+      for (int m = 0; m < 6; m++) Due.eq("machine " + m, x.running(m), then[m]);
+    });
+    Edge.test(where, "those that have done it, by rising numbers, tell their run: a quarantine holds for the next one", () -> {
+      // of the degree 2, with 8 the draws are 0 and 9: it flakes; with 7: 1, 0 and 9: two fail
+      for (boolean flakesFirst : new boolean[] {false, true}) {
+        Greentrunk x = new Greentrunk();
+        x.test(1, 1, 2);
+        Due.queued(x, 0, 0, 0, 8);
+        x.tick(3);
+        x.revert(1, 0);
+        x.tick(2);
+        Due.eq("flaked once", x.flaked(0), 1);
+        Due.eq("the trunk is 0 again", x.content(x.commits() - 1, 0), 0);
+        x.outside(0, true);
+        x.outside(0, false);
+        x.come(1);
+        x.batches(1, 2);
+        int first = Due.queued(x, 0, 3, 0, flakesFirst ? 8 : 7);
+        int second = Due.change(x, 0, first, 0, flakesFirst ? 7 : 8);
+        x.queue(second, 0);
+        x.tick(3);
+        Due.is("in quarantine", x.isQuarantined(0));
+        if (flakesFirst) {
+          Due.eq("8 has landed", x.state(first), LANDED);
+          Due.eq("7 failed twice, but the quarantine was there by then", x.tick(1), 1);
+        } else {
+          Due.eq("7 was FAILED ahead of the flake: the trunk is run", x.state(first), QUEUED);
+          x.tick(1);
+          Due.eq("RED", x.state(first), RED);
+          Due.eq("DROPPED", x.state(second), DROPPED);
+        }
+      }
+    });
+  }
+
   // ---- promise 20
 
   private static void fullRun() {
@@ -459,6 +522,91 @@ public final class EdgeQueueTest {
         Due.eq("LANDED", once.tick(30), landed);
         Due.is("the same", Due.all(once).equals(Due.all(singly)));
       }
+    });
+  }
+
+  /** The machine 0 has run test 0 of 6 ticks for a change of file 0 since 2 ticks, the machine 1 idles. */
+  private static Greentrunk idling() {
+    Greentrunk x = new Greentrunk();
+    x.test(1, 6, 0);
+    x.come(1);
+    Due.queued(x, 0, 0, 0, 1);
+    Due.queued(x, 1, 0, 5, 1);
+    x.tick(3);
+    Due.eq("machine 0 runs it", x.running(0), 0);
+    Due.eq("machine 1 idles", x.running(1), NONE);
+    return x;
+  }
+
+  private static void untilTheNextTick() {
+    String where = "Promise 21, tick";
+    Edge.test(where, "what was called since the last tick, even if that changed nothing, counts in the next one", () -> {
+      Edge.takes("nothing", EdgeQueueTest::idling, g -> g.tick(1) * 10 + g.running(1), NONE);
+      Edge.takes("test", EdgeQueueTest::idling, g -> g.test(1, 1, 0) * 100 + g.tick(1) * 10 + g.running(1), 101);
+      Edge.takes("breaks", EdgeQueueTest::idling, g -> g.breaks(0, 0, 9, 0, 9) * 100 + g.tick(1) * 10 + g.running(1), 100);
+      Edge.takes("outside", EdgeQueueTest::idling, g -> Edge.bit(g.outside(0, true)) + g.tick(1) * 10 + g.running(1), 0);
+      Edge.takes("fullRun", EdgeQueueTest::idling, g -> Edge.bit(g.fullRun()) * 100 + g.tick(1) * 10 + g.running(1), 100);
+      Edge.takes("vanish", EdgeQueueTest::idling, g -> Edge.bit(g.vanish(0)) * 100 + g.tick(1) * 10 + g.running(1), 100);
+      Edge.takes("drop", EdgeQueueTest::idling, g -> g.drop(0) * 100 + g.tick(1) * 10 + g.state(1), 100 + 10 + LANDED);
+      Edge.takes("queue", EdgeQueueTest::idling, g -> {
+        Due.queued(g, 0, 3, 7, 7);
+        return g.tick(1);
+      }, 1);
+      Edge.takes("line", () -> {
+        Greentrunk x = idling();
+        x.test(2, 1, 0);
+        x.tick(1);
+        return x;
+      }, g -> g.line(1, ALWAYS, 0) * 100 + g.tick(1) * 10 + g.running(1), 101);
+      Edge.takes("batches", () -> {
+        Greentrunk x = idling();
+        x.test(1 << 5, 1, 0);
+        x.tick(1);
+        return x;
+      }, g -> g.batches(1, 2) * 100 + g.tick(1) * 10 + g.running(1), 1101);
+      Edge.takes("come", () -> {
+        Greentrunk x = idling();
+        x.vanish(1);
+        x.test(1, 1, 0);
+        x.tick(1);
+        return x;
+      }, g -> Edge.bit(g.come(1)) * 100 + g.tick(1) * 10 + g.running(1), 101);
+      Edge.takes("revert", () -> {
+        Greentrunk x = new Greentrunk();
+        Due.queued(x, 0, 0, 9, 9);
+        x.tick(1);
+        x.test(1, 6, 0);
+        Due.queued(x, 0, 3, 0, 1);
+        x.tick(2);
+        return x;
+      }, g -> g.revert(1, 0) * 100 + g.tick(1), 201);
+    });
+    Edge.test(where, "an empty queue wants nothing, whatever was looked at ahead", () -> {
+      Greentrunk x = Edge.tests(2);
+      x.breaks(0, 0, 1, 0, 1);
+      x.breaks(1, 0, 1, 0, 1);
+      x.come(1);
+      int c = Due.queued(x, 0, 0, 0, 1);
+      x.tick(3);
+      Due.eq("both FAILED: test 1 is run on the trunk", x.running(1), 1);
+      x.vanish(1);
+      x.tick(1);
+      Due.eq("test 0 has PASSED there", x.state(c), RED);
+      Due.eq("test 1 is not wanted any more", x.running(0), NONE);
+      x.tick(30);
+      Due.eq("nor is it later", x.runs(1), 2);
+    });
+    Edge.test("Terms, runs and machines", "10 tests for each of 4 batches: the last ones are wanted as well", () -> {
+      Greentrunk x = new Greentrunk();
+      for (int t = 0; t < 10; t++) x.test(4095, 6, 0);
+      x.batches(1, 4);
+      for (int m = 1; m < 6; m++) x.come(m);
+      for (int i = 0; i < 4; i++) Due.queued(x, i == 3 ? 2 : 0, 0, i, 1);
+      x.tick(7);
+      Due.eq("the first batch", x.use(0), 60);
+      Due.eq("two machines are left: test 0", x.running(4), 0);
+      Due.eq("and test 1", x.running(5), 1);
+      Due.eq("of the fourth batch, as its team has the least use", x.use(2), 12);
     });
   }
 
@@ -862,8 +1010,10 @@ public final class EdgeQueueTest {
     batches();
     machines();
     weigh();
+    takingAndTelling();
     fullRun();
     tick();
+    untilTheNextTick();
     order();
     deciding();
     calls();
